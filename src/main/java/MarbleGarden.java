@@ -732,8 +732,8 @@ public final class MarbleGarden {
     /** YEARS as they are told, lived on a copy of the BLOCKS. */
     private static final class Years {
         private final Blocks then = new Blocks();
+        private int firstDay;
         private int firstWrong;
-        private int daysGone;
         private int daysAlike;
 
         static boolean tells(int what) {
@@ -765,8 +765,8 @@ public final class MarbleGarden {
 
         void live(Blocks now, Law law, Sheet row, int i, int n) {
             then.copyFrom(now);
+            firstDay = now.day;
             firstWrong = NONE;
-            daysGone = 0;
             daysAlike = 0;
             for (int p = 0; p < n && firstWrong == NONE; p++) {
                 int first = row.at(i + 2 * p);
@@ -786,7 +786,6 @@ public final class MarbleGarden {
                     daysAlike++;
                 }
             }
-            daysGone += days;
         }
 
         /** Does what is told of BLOCK k, if it can be. */
@@ -814,7 +813,7 @@ public final class MarbleGarden {
             switch (what) {
                 case 0: return then.lookedAt;
                 case 2: return then.cellsSet();
-                case 3: return daysGone;
+                case 3: return then.day - firstDay;
                 case 4: return daysAlike;
                 default: return then.has(what - OF_SHAPE) ? then.shapeOf[what - OF_SHAPE] : NONE;
             }

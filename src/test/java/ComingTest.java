@@ -153,6 +153,7 @@ public final class ComingTest {
         C.dueWithFault(x, "CAST", x.laws(2, 1, 9, 2, 0), Checks.CAST, 2);
         C.dueWithFault(x, "64 is no SHAPE", x.laws(2, 0, 0, 2, 0), -2, 0);
         C.dueWithFault(x, "-1 is no SHAPE", x.laws(2, 0, 2, 1, 0), -2, 0);
+        C.dueWithFault(x, "what is not taken may be none", x.laws(2, 0, 0, 1, 0), 256, 0);
         C.dueWithFault(x, "what is not taken may be none", x.laws(2, 0, 3, 1, 0), 256, 0);
         C.dueWithFault(x, "none taken at the end", x.laws(2, 0, 4, 0, 0), 256, 0);
         C.dueWithFault(x, "none taken beyond", x.laws(2, 0, 5, 0, 0), Checks.INDEX, 3);

@@ -121,7 +121,19 @@ public final class DaysTest {
         C.due("years: away, a day, look", x.years(1, Checks.BYTES, 2, 3, 0), 1);
         C.due("years: away, a day, look", x.years(1, Checks.BYTES, 2, 3, 10), 2);
         C.due("years: away, a day, look", x.years(1, Checks.BYTES, 2, 3, 11), 8);
+        C.due("years: how many days, from now", x.years(1, Checks.BYTES, 2, 3, 3), 1);
         C.due("many(2)", x.many(2), 1);
+        everyCellCanBeStruck(x);
+    }
+
+    private static void everyCellCanBeStruck(MarbleGarden x) {
+        int[] pairs = {1, 10, 1, 11, 1, 12, 1, 13, 1, 14, 1, 15};
+        Checks.fill(x, 1, Checks.BYTES, pairs);
+        int shape = 4;
+        for (int n = 1; n <= 6; n++) {
+            shape ^= 1 << n - 1;
+            C.due("years: " + n + " strokes", x.years(1, Checks.BYTES, 0, n, 11), shape);
+        }
     }
 
     private static void yearsWithAWrong() {
@@ -167,6 +179,8 @@ public final class DaysTest {
         pairRefused(x, -1, 99, 0, 7, 1, 0, 4);
         // a refusal goes ahead of an act that can't be
         pairRefused(x, -2, 0, 2, 0, 3);
+        Checks.fill(x, 1, Checks.INTS, 1, 10, 0, 3);
+        C.dueWithFault(x, "pairs that are not taken may be none", x.years(1, 2, 0, 1, 11), 3, 0);
         twentyPairs(x);
     }
 
