@@ -773,7 +773,7 @@ public final class MarbleGarden {
                 int act = row.at(i + 2 * p + 1);
                 if (act == ACT_DAYS) {
                     letGo(law, first);
-                } else if (!canDo(first, act)) {
+                } else if (!tryAct(first, act)) {
                     firstWrong = p;
                 }
             }
@@ -788,8 +788,8 @@ public final class MarbleGarden {
             }
         }
 
-        /** Does what is told of BLOCK k, if it can be. */
-        private boolean canDo(int k, int act) {
+        /** Does what is told of BLOCK k; false: it can't be. */
+        private boolean tryAct(int k, int act) {
             if (!then.has(k)) {
                 return false;
             }
