@@ -59,13 +59,14 @@ public final class GardenTest {
             6, 7, 7, 8, 8, 8, 9, 9,
             10, 11, 12, 13, 13, 34, 34,
             34, 0, 0};
-        MarbleGarden x = Checks.gardenOf("g110;h123");
         for (int t = 0; t < texts.length; t++) {
+            MarbleGarden x = Checks.gardenOf("g110;h123");
             C.dueWithFault(x, "garden of '" + texts[t] + "'", Checks.take(x, texts[t]), -100 - places[t], 0);
             C.due("many(0) behind it", x.many(0), 1);
             C.due("many(1) behind it", x.many(1), 110);
             C.due("ofBlock(0, 1) behind it", x.ofBlock(0, 1), 10);
         }
+        MarbleGarden x = new MarbleGarden();
         Checks.fill(x, 1, Checks.INTS, 103 + 256, 48, 48, 48);
         C.due("codes of ints are not cut", x.garden(1, Checks.INTS, 0, 4), -100);
         Checks.fill(x, 1, Checks.BYTES, 103 + 256, 48, 48, 48);

@@ -129,17 +129,22 @@ public final class ModelTest {
     private void seeSomething() throws Exception {
         for (int r = random.nextInt(4); r > 0; r--) {
             int k = random.nextInt(3);
-            int shape = real.ofBlock(k, 1);
-            int steps = real.ofBlock(k, 3);
+            int shape = told("ofBlock", k, 1);
+            int steps = told("ofBlock", k, 3);
             int days = random.nextInt(3);
             for (int s = 0; s < days * steps; s++) {
-                shape = real.becomes(shape);
+                shape = told("becomes", shape);
             }
             ask("reading", k, days, shape);
         }
         for (String name : new String[] {"paces", "kinds", "starts"}) {
             ask(name, random.nextInt(4));
         }
+    }
+
+    /** Asked of the second garden, so that the first one's 512 calls are spent on what is compared. */
+    private int told(String name, int... numbers) {
+        return (int) plain.call(name, numbers);
     }
 
     private void writeYears() throws Exception {
@@ -162,7 +167,7 @@ public final class ModelTest {
         int[] shapes = new int[n];
         shapes[0] = random.nextInt(64);
         for (int p = 1; p < n; p++) {
-            int next = real.becomes(shapes[p - 1]);
+            int next = told("becomes", shapes[p - 1]);
             shapes[p] = next < 0 || random.nextInt(5) == 0 ? random.nextInt(65) : next;
         }
         int lane = random.nextInt(3);
