@@ -132,7 +132,8 @@ final class EdgesOfParts {
     static void faultCameToNone() {
         Edges.promise(33, "0: it came to none");
         Run x = Run.busy().does("sheet", 3, 0, -1).tellsFault(4);
-        int[][] fine = {{0, 0, 0, 19}, {1, 1, 0, 0, 0}, {1, 1, 0, 1, 0}, {3, 0, 1}, {1, 0, 5}, {1, 0, 1}, {1, 0, 1, 1, 1}, {2, 2}};
+        int[][] fine = {{0, 0, 0, 19}, {1, 1, 0, 0, 0}, {1, 1, 0, 1, 0}, {3, 0, 1}, {1, 0, 5}, {1, 0, 1}, {1, 0, 1, 1, 1},
+            {2, 2}};
         String[] names = {"garden", "years", "laws", "sheet", "put", "cell", "copy", "as"};
         for (int c = 0; c < names.length; c++) {
             x.does("sheet", 3, 0, -1).does(names[c], fine[c]).tellsFault(0);
@@ -147,8 +148,8 @@ final class EdgesOfParts {
         Run x = Run.busy();
         int[][] refused = {{4, 0, 0, 19}, {0, 3, 0, 19}, {4, 1, 0, 0, 0}, {1, 1, 0, 0, 5}, {1, 1, 0, 1, 0}, {4, 1, 0, 1, 0},
             {1, 1, 1, 1, 0}, {4, 0, 1}, {3, 0, 61}, {4, 0, 5}, {4, 0, 1}, {1, 0, 3}, {4, 0, 1, 1, 1}, {9, 0}, {0, 3}};
-        String[] names = {"garden", "garden", "years", "years", "years", "laws", "laws", "sheet", "sheet", "put", "cell", "cell",
-            "copy", "as", "as"};
+        String[] names = {"garden", "garden", "years", "years", "years", "laws", "laws", "sheet", "sheet", "put", "cell",
+            "cell", "copy", "as", "as"};
         for (int c = 0; c < names.length; c++) {
             x.does("sheet", 3, 0, -1).tellsFault(4).does(names[c], refused[c]).tellsFault(0);
         }

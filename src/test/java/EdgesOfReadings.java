@@ -90,9 +90,10 @@ final class EdgesOfReadings {
             + " behind n DAYS (nobody LOOKING).", 23);
         Run x = Run.of("g000;b001;b771").does("look", 0).does("look", 1);
         for (int k = 0; k <= 1; k++) {
-            x.asks(1, "odds", k, 1, 0, 0).asks(1, "odds", k, 1, 0, 1).asks(0, "odds", k, 1, 63, 0).asks(1, "odds", k, 1, 63, 1);
-            x.asks(1, "odds", k, 0, 0, 0).asks(64, "odds", k, 0, 0, 1).asks(1, "odds", k, 0, 63, 0);
-            x.asks(64, "odds", k, 0, 63, 1);
+            x.asks(1, "odds", k, 1, 0, 0).asks(1, "odds", k, 1, 0, 1);
+            x.asks(0, "odds", k, 1, 63, 0).asks(1, "odds", k, 1, 63, 1);
+            x.asks(1, "odds", k, 0, 0, 0).asks(64, "odds", k, 0, 0, 1);
+            x.asks(1, "odds", k, 0, 63, 0).asks(64, "odds", k, 0, 63, 1);
         }
         // by 136 a cell stays while the one below it is set: of 64 only 63 is not 0 behind 5 STEPS
         x.does("enact", 136).asks(63, "odds", 0, 5, 0, 0).asks(64, "odds", 0, 5, 0, 1);

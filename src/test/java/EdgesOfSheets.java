@@ -196,7 +196,8 @@ final class EdgesOfSheets {
         Edges.promise(27, "OUTSIDE: lane");
         Run x = Run.busy();
         for (int lane : new int[] {-1, 3, Edges.MIN, Edges.MAX}) {
-            x.refuses(Edges.LOST, "cell", 0, 0, lane).refuses(Edges.LOST, "cell", 3, 0, lane).refuses(Edges.LOST, "cell", 0, -1, lane);
+            x.refuses(Edges.LOST, "cell", 0, 0, lane).refuses(Edges.LOST, "cell", 3, 0, lane);
+            x.refuses(Edges.LOST, "cell", 0, -1, lane);
         }
     }
 

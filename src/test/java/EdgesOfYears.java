@@ -255,12 +255,14 @@ final class EdgesOfYears {
         Edges.promise(11, "STATE: there is no GARDEN");
         Run x = Run.fresh().row(3, Edges.INTS, 0, 3, 0, 1);
         for (int what : WHATS) {
-            x.refuses(Edges.STATE, "years", 3, Edges.INTS, 0, 0, what).refuses(Edges.STATE, "years", 3, Edges.INTS, 0, 2, what);
+            x.refuses(Edges.STATE, "years", 3, Edges.INTS, 0, 0, what);
+            x.refuses(Edges.STATE, "years", 3, Edges.INTS, 0, 2, what);
         }
     }
 
     static void pairsOutside() {
-        Edges.promise(11, "pair by pair OUTSIDE: the second is none of 0 .. 2, 10 .. 15, it is 0 and the first is not 0 .. 99");
+        Edges.promise(11, "pair by pair OUTSIDE: the second is none of 0 .. 2, 10 .. 15,"
+            + " it is 0 and the first is not 0 .. 99");
         Run x = Run.of("g170;b011");
         for (int second : new int[] {Edges.MIN, -1, 3, 4, 8, 9, 16, 17, Edges.MAX}) {
             told(x, Edges.OUTSIDE, 0, 0, second);

@@ -67,8 +67,8 @@ public final class GridTest {
         if (got != want || fault != faultTold) {
             wrong++;
             if (wrong <= 20) {
-                System.out.println("scene " + scene + ": " + m.getName() + Arrays.toString(numbers) + " answered " + got + " and fault "
-                    + faultTold + ", due is " + want + " and " + fault);
+                System.out.println("scene " + scene + ": " + m.getName() + Arrays.toString(numbers) + " answered " + got
+                    + " and fault " + faultTold + ", due is " + want + " and " + fault);
             }
         }
     }
