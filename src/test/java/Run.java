@@ -200,6 +200,14 @@ final class Run {
         return again;
     }
 
+    /** As howAllStands, with what fault() tells ahead of it. */
+    List<Long> howAllStandsWithFault() {
+        List<Long> all = new ArrayList<>();
+        all.add(call("fault"));
+        all.addAll(howAllStands());
+        return all;
+    }
+
     /** All that the document's calls tell of an object, but fault(); the object is not used any more. */
     private List<Long> howAllStands() {
         List<Long> all = new ArrayList<>();
